@@ -35,7 +35,8 @@ public final class OwedFalls {
     private static final int MOST_TIMES = 6;
     private static final int DUE_OF_ALL = -1;
     private static final int COINS_OF_ALL = -2;
-    private static final int NEVER = Integer.MAX_VALUE;
+    // Far above every cost that can come up, and low enough to be added to.
+    private static final int NEVER = 1000000000;
 
     private final Reader reader;
     private final Ledger ledger;
@@ -944,8 +945,9 @@ public final class OwedFalls {
             System.arraycopy(bonds, 0, left, 0, left.length);
             stairs = stairsTold;
             struck = 0;
-            for (size = 2; size <= stairs; size++) {
-                for (int first = 0; first < stairs; first++) {
+            for (int fewest = 2; fewest <= stairsTold; fewest++) {
+                size = fewest;
+                for (int first = 0; first < stairsTold; first++) {
                     row[0] = first;
                     goOn(this, 1, 1 << first);
                 }

@@ -149,6 +149,10 @@ public final class PromiseTests {
     due("house() of no text", empty.house(), 0);
     write(empty, "   ");
     due("house() of blanks", empty.house(), 0);
+    write(empty, " ".repeat(200));
+    due("house() of 200 blanks", empty.house(), 0);
+    write(empty, "d7;" + " ".repeat(193) + "t8; ");
+    due("house() of 200 bytes", empty.house(), 2);
     due("bytes then", empty.count(5), 0);
   }
 
@@ -167,6 +171,17 @@ public final class PromiseTests {
     faultAt(3, "d1;;");
     faultAt(3, "d1;7");
     faultAt(1, "d;");
+    faultAt(0, "da1;");
+    faultAt(0, "dz1;");
+    faultAt(1, "d`1;");
+    faultAt(1, "d{1;");
+    faultAt(2, "d1/;");
+    faultAt(2, "d1:;");
+    faultAt(0, "z".repeat(200));
+    faultAt(0, "7".repeat(200));
+    faultAt(1, "d" + "7".repeat(199));
+    faultAt(200, "d" + " ".repeat(199));
+    faultAt(200, " ".repeat(198) + "d7");
     faultAt(1, "d" + (char) 9 + "1;");
     faultAt(2, "d " + (char) 0 + ";");
     faultAt(2, "d " + (char) 255 + ";");
@@ -177,6 +192,7 @@ public final class PromiseTests {
     faultAt(1, "d00;");
     faultAt(1, "d01;");
     faultAt(1, "d10;");
+    faultAt(1, "t10;");
     faultAt(1, "t100;");
     faultAt(1, "s00 1 1 1;");
     faultAt(1, "s4294967296 1 1 1;");
@@ -235,6 +251,16 @@ public final class PromiseTests {
     due("back(0)", x.back(0), STATE);
     due("back(1)", x.back(1), STATE);
     due("trace goes on", x.trace(), 1);
+    write(x, "t7;d8;p0 1 1;");
+    due("house() once more", x.house(), 3);
+    due("stairs", x.count(0), 0);
+    due("due of all", x.now(1), 0);
+    write(x, "d8;t7;");
+    due("d and t may be told again", x.house(), 2);
+    due("people", x.count(1), 0);
+    due("house() of nothing", x.house(), 0);
+    due("dolls as at first", x.count(2), 3);
+    due("pair as at first", x.count(3), 3);
   }
 
   private static void promise5() {
@@ -598,6 +624,12 @@ public final class PromiseTests {
     }
     due("much is due: HURT", alone.paid(0, 0), 9 * 900);
     due("much is due: FALLS", alone.paid(0, 1), 900);
+    OwedFalls most = told("s0 1 1 40;p1 9 9;");
+    for (int i = 0; i < 30; i++) {
+      most.ends();
+    }
+    due("most is due: HURT", most.paid(0, 0), 9 * 999);
+    due("most is due: FALLS", most.paid(0, 1), 999);
     OwedFalls useless = told("s0 1 1 3;p0 0 5;p0 0 0;t0;");
     due("two together count nothing", useless.paid(0, 0), 0);
     due("two together count nothing: FALLS", useless.paid(0, 1), 2);
