@@ -199,6 +199,8 @@ public final class PromiseTests {
     faultAt(1, "s99999999999999999999999999 1 1 1;");
     faultAt(5, "s0 1 100 1;");
     faultAt(5, "s0 1 0 1;");
+    faultAt(5, "s0 1 a 1;");
+    faultAt(5, "s0 1 c 1;");
     faultAt(8, "s0 1 99 41;");
     faultAt(3, "s3 3 1 1;");
     faultAt(3, "s3 7 1 1;");
