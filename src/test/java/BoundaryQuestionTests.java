@@ -302,6 +302,8 @@ public final class BoundaryQuestionTests {
     String five = "p0 0 0;p0 0 0;p0 0 0;p0 0 0;p0 0 0;";
     Case.told(five).then("who(6, 12, 0, 0) = 210", "who(6, 12, 0, 1) = 0", "who(6, 12, 0, 2) = 31", "who(1, 2, 0, 0) = 5", "who(1, 2, 0, 1) = 0");
     Case.told(five).then("who(0, 0, 0, 0) = 1", "who(0, 0, 0, 2) = 0");
+    // What was asked ahead of it leaves nothing.
+    Case.told(five).then("who(6, 12, 0, 2) = 31", "who(0, 0, 0, 2) = 0", "who(6, 12, 0, 0) = 210", "who(1, 2, 0, 0) = 5", "who(1, 1, 0, 2) = 0");
     // The last of five alone, in each way and in some.
     Case.told("p1 0 0;p1 0 0;p1 0 0;p1 0 0;p0 0 9;").then("who(1, 2, 9, 0) = 1", "who(1, 2, 9, 1) = 16", "who(1, 2, 9, 2) = 16",
         "who(2, 3, 9, 0) = 4", "who(2, 3, 9, 1) = 16", "who(2, 3, 9, 2) = 31", "who(6, 12, 54, 1) = 16");

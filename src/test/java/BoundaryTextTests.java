@@ -116,6 +116,9 @@ public final class BoundaryTextTests {
     Case.items(0, " ".repeat(200));
     new Case().then("house() = 0", "count(0) = 0", "count(1) = 0", "count(2) = 3", "count(3) = 3");
     Case.told("d7;t8;" + SEVEN + FIVE).then("house() = 0", "count(0) = 0", "count(1) = 0", "count(2) = 3", "count(3) = 3");
+    // However often it is read.
+    Case.told("d7;t8;" + SEVEN + FIVE).then("house() = 0", "house() = 0", "count(0) = 0", "count(1) = 0", "count(2) = 3", "count(3) = 3");
+    new Case().types("d7;t8;@").then("house() = -16", "clear() = 7", "house() = 0", "count(2) = 3", "count(3) = 3");
     Case.items(1, "d7;");
     Case.items(14, "d7;t8;" + SEVEN + FIVE);
     Case.told("d7;").then("count(5) = 0", "house() = 0", "count(2) = 3");
@@ -221,6 +224,9 @@ public final class BoundaryTextTests {
     Case.told("d7;t8;" + FIVE).types("d9;t9;" + FIVE).then("house() = 7", "count(2) = 9", "count(1) = 5");
     Case.told(SEVEN).types(SEVEN).then("house() = 7", "count(0) = 7");
     new Case().types("d7;d7;").then("house() = -13", "clear() = 6").types("d7;").then("house() = 1");
+    new Case().types("t8;t8;").then("house() = -13", "clear() = 6").types("t8;").then("house() = 1");
+    new Case().types(FIVE + "@").then("house() = -45", "clear() = 36").types(FIVE).then("house() = 5", "count(1) = 5");
+    new Case().types(FIVE + "@").then("house() = -45", "clear() = 36", "house() = 0", "count(1) = 0");
     new Case().types(SEVEN + "s").then("house() = -73", "clear() = 64").types(SEVEN).then("house() = 7");
   }
 
@@ -267,6 +273,8 @@ public final class BoundaryTextTests {
       Case.fault(0, c + "d7;");
       Case.fault(0, "" + c + c);
       Case.fault(2, "d " + c + "7;");
+      // No letter is a number, though those of a, b and c are 97 to 99.
+      Case.fault(5, "s0 1 " + c + " 1;");
       Case.fault(2, "d7" + c + ";");
       // Capitals are no letters.
       Case.fault(0, Character.toUpperCase(c) + "7;");
@@ -350,6 +358,9 @@ public final class BoundaryTextTests {
     Case.fault(3, "d7;d@");
     Case.fault(2, "d 12345 @");
     Case.fault(8, "d7;t8;  x100");
+    // What was read ahead of it, with another fault, is forgotten.
+    new Case().types("s").then("house() = -11").types("s0 1 1 1;").then("house() = -10");
+    new Case().types("d7;t").then("house() = -14", "clear() = 4").types("tt8;").then("house() = -10");
     // The token's first byte, not the byte by which it becomes wrong.
     Case.fault(4, "d7; tt8;");
     Case.fault(5, "s0 1 100 5;");
@@ -409,5 +420,8 @@ public final class BoundaryTextTests {
     // Fewer stairs and people than were told ahead of it.
     Case.told(SEVEN + FIVE).types("s5 6 2 3;p1 2 3;").then("house() = 2", "count(0) = 1", "count(1) = 1", "stair(1, 0) = BAD",
         "person(1, 0) = BAD", "stair(0, 0) = 5", "now(1) = 3", "coins(9, 1) = BAD", "bars(0, 1) = 0", "who(1, 2, 0, 0) = 0");
+    // What was asked of the house ahead of it leaves nothing, either.
+    Case.told(SEVEN + FIVE).then("coins(0, -1) = 7", "surest(0, 6, 0) = 1", "paid(0, 0) = 0", "now(5) = 0").types("s5 6 2 3;p1 2 3;")
+        .then("house() = 2", "coins(0, -1) = 3", "coins(0, -2) = 0", "surest(0, 6, 0) = NONE", "paid(0, 0) = 9", "paid(0, 1) = 3");
   }
 }

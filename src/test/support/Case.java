@@ -23,6 +23,7 @@ final class Case {
   private static String sentence = "";
   private static int sentences = 0;
   private static int cases = 0;
+  private static int casesAhead = 0;
   private static int wrong = 0;
 
   private final OwedFalls x = new OwedFalls();
@@ -35,10 +36,18 @@ final class Case {
 
   /** The words that the cases behind it are about; they have to stand in the document. */
   static void says(String words) {
+    lookForACase();
     sentences++;
     sentence = words;
+    casesAhead = cases;
     if (!document().contains(words)) {
       fail("these words don't stand in the document");
+    }
+  }
+
+  private static void lookForACase() {
+    if (sentences > 0 && cases == casesAhead) {
+      fail("no case is about these words");
     }
   }
 
@@ -59,6 +68,7 @@ final class Case {
   }
 
   static void end() {
+    lookForACase();
     String told = sentences + " sentences, " + cases + " cases";
     System.out.println(wrong == 0 ? told + ": all hold" : told + ": " + wrong + " answers are not as due");
     if (wrong != 0) {
